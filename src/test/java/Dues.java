@@ -1,0 +1,54 @@
+/** Counts the answers that are not as due; no test itself. */
+final class Dues {
+    static final long NO = -4611686018427387904L;
+    private int wrong = 0;
+
+    void due(String call, long got, long want) {
+        if (got != want) {
+            wrong++;
+            System.out.println(call + " answered " + got + ", due is " + want);
+        }
+    }
+
+    void end() {
+        System.out.println(wrong == 0 ? "all answers are as due" : wrong + " answers are not as due");
+        if (wrong != 0) {
+            System.exit(1);
+        }
+    }
+
+    /** A sheet of a sort with these numbers. */
+    static void row(HundredBoxes x, int sheet, int sort, int... numbers) {
+        x.sheet(sheet, sort, numbers.length);
+        for (int i = 0; i < numbers.length; i++) {
+            x.cell(sheet, i, numbers[i]);
+        }
+    }
+
+    /** Lays these numbers, by sheet 3. */
+    static void lay(HundredBoxes x, int... numbers) {
+        x.boxes(numbers.length);
+        row(x, 3, 2, numbers);
+        x.lay(3);
+    }
+
+    /** Feeds a text, up to eight bytes at once. */
+    static int feed(HundredBoxes x, String text) {
+        int last = 0;
+        for (int from = 0; from < text.length(); from += 8) {
+            int n = Math.min(8, text.length() - from);
+            long bytes = 0;
+            for (int i = n - 1; i >= 0; i--) {
+                bytes = bytes << 8 | text.charAt(from + i) & 255;
+            }
+            last = x.feed(n, bytes);
+        }
+        return last;
+    }
+
+    /** What text() answers to a text. */
+    static int text(HundredBoxes x, String text) {
+        feed(x, text);
+        return x.text();
+    }
+}
