@@ -395,7 +395,8 @@ public final class HundredBoxes {
             drawsTally.begin(laying.size, looks, rule);
             trial.layOwn(laying.size);
             long layings = factorial(laying.size);
-            for (long i = 0; i < layings; i++) {
+            // no laying is met by less than 0 draws
+            for (long i = 0; i < layings && drawsTally.least != 0; i++) {
                 drawsTally.add(drawsThatWin(trial), trial);
                 trial.advance();
             }
@@ -668,7 +669,7 @@ public final class HundredBoxes {
         }
 
         int at(int box) {
-            return has(box) ? numbers[box] : NONE;
+            return box >= 0 && box < size ? numbers[box] : NONE;
         }
 
         void put(int box, int number) {
@@ -820,13 +821,14 @@ public final class HundredBoxes {
 
         /** In the how maniest look a man finds his; 0: in none. */
         int lookThatFinds(Laying where, int man, int most) {
-            int box = firstBox(man, where.size);
+            int n = where.size;
+            int box = firstBox(man, n);
             for (int look = 1; look <= most; look++) {
                 int seen = where.at(box);
                 if (seen == man) {
                     return look;
                 }
-                box = boxBehind(box, seen, look, where.size);
+                box = boxBehind(box, seen, look, n);
             }
             return 0;
         }

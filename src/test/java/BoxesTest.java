@@ -123,6 +123,9 @@ public final class BoxesTest {
         T.due("box(-1, 0)", x.box(-1, 0), -2);
         T.due("box(0, -1)", x.box(0, -1), -2);
         T.due("box(0, 2)", x.box(0, 2), -2);
+        Dues.lay(x, 1, 2, 3, 4, 5, 6, 7, 8, 9, 10, 11, 0);
+        T.due("box(5, 1), one ring", x.box(5, 1), 12);
+        T.due("rings(1), one ring", x.rings(1), 12);
         // a way into nothing that is met in its midst first
         Dues.lay(x, 2, 0, -1, 3);
         T.due("rings(0) of a way", x.rings(0), 1);

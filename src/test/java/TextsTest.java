@@ -98,6 +98,10 @@ public final class TextsTest {
         fault("home found_;", 10);
         fault("home foun;", 5);
         fault("home foundd;", 5);
+        fault("home foundz;", 5);
+        fault("home afound;", 5);
+        fault("home 1 bet 1;", 7);
+        fault("home 1;some 1;or 1;", 14);
         fault("home notfound;", 5);
         fault("home 1 ;some 2 > 1;", 15);
         fault("home \u00e9;", 5);
