@@ -2,11 +2,24 @@
 final class Dues {
     static final long NO = -4611686018427387904L;
     private int wrong = 0;
+    private String about = "";
+
+    /** The sentence of the document that the dues from here on test. */
+    void about(String sentence) {
+        about = "[" + sentence + "] ";
+    }
 
     void due(String call, long got, long want) {
         if (got != want) {
             wrong++;
-            System.out.println(call + " answered " + got + ", due is " + want);
+            System.out.println(about + call + " answered " + got + ", due is " + want);
+        }
+    }
+
+    void dueText(String call, String got, String want) {
+        if (!got.equals(want)) {
+            wrong++;
+            System.out.println(about + call + ":\n  is     " + got + "\n  due is " + want);
         }
     }
 
@@ -30,6 +43,13 @@ final class Dues {
         x.boxes(numbers.length);
         row(x, 3, 2, numbers);
         x.lay(3);
+    }
+
+    /** A new object in which these numbers lie. */
+    static HundredBoxes laid(int... numbers) {
+        HundredBoxes x = new HundredBoxes();
+        lay(x, numbers);
+        return x;
     }
 
     /** Feeds a text, up to eight bytes at once. */
