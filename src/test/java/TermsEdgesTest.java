@@ -332,6 +332,34 @@ public final class TermsEdgesTest {
         fault("home 1;some;bet 0;", 11);
         fault("home 1;some 0;bet;", 17);
         fault("home 1 some 0;bet 0;", 7);
+        keysAndNames();
+    }
+
+    private static void keysAndNames() {
+        T.about("NAMES are found men looks missing rings longest; home, some, bet, or, and, not are KEYS");
+        for (String name : new String[] {"found", "men", "looks", "missing", "rings", "longest"}) {
+            stands("home " + name + ";some " + name + ";bet " + name + ";");
+            fault(name + " 1;some 0;bet 0;", 0);
+            fault("home 1;" + name + " 0;bet 0;", 7);
+            fault("home 1;some 0;" + name + " 0;", 14);
+            fault("home 1 " + name + " 1;some 0;bet 0;", 7);
+        }
+        for (String key : new String[] {"home", "some", "bet", "or", "and"}) {
+            fault("home " + key + ";some 0;bet 0;", 5);
+            fault("home 1;some " + key + ";bet 0;", 12);
+            fault("home 1;some 0;bet " + key + ";", 18);
+            fault("home not " + key + ";", 9);
+            fault("home (" + key + ");", 6);
+        }
+        for (String key : new String[] {"some", "bet", "or", "and", "not"}) {
+            fault(key + " 1;some 0;bet 0;", 0);
+        }
+        for (String key : new String[] {"home", "bet", "or", "and", "not"}) {
+            fault("home 1;" + key + " 0;bet 0;", 7);
+        }
+        for (String key : new String[] {"home", "some", "or", "and", "not"}) {
+            fault("home 1;some 0;" + key + " 0;", 14);
+        }
     }
 
     private static void value(String formula, int want) {
